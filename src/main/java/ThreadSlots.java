@@ -60,7 +60,7 @@ public final class ThreadSlots {
     }
 
     public int rule(int kind) throws IllegalArgumentException {
-        checkArgument(kind, 0, BY_SEED);
+        checkArgument(kind, BY_TURNS, BY_SEED);
         int before = ruleNow;
         ruleNow = kind;
         return before;

@@ -138,6 +138,14 @@ final class CyclesTest {
         Check.same("a bound of 1", Check.goers(z, 5), "01010");
         z.bound(0);
         Check.same("no bound", Check.goers(z, 3), "000");
+
+        ThreadSlots w = Check.allReady(3);
+        w.bound(5);
+        Check.same("none waited so long", Check.goers(w, 5), "01201");
+        w.ready(0, false);
+        w.ready(1, false);
+        w.ready(2, false);
+        Check.same("none can go", Check.goers(w, 2), "..");
     }
 
     private static void boundBeforeRank() {

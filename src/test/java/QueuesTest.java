@@ -76,6 +76,7 @@ final class QueuesTest {
         }
         Check.same("the part and the queue are full", x.put(5, 1, 33), -1);
         Check.same("the queue is full", x.put(5, 0, 33), -1);
+        Check.noState("none of 0 in a full queue", () -> x.take(5, 0));
         Check.same("in all", x.count(7), 32);
         Check.same("another queue has room", x.put(4, 0, 33), 1);
         Check.same("the first leaves", x.take(5, -1), 1);

@@ -63,6 +63,18 @@ final class SettingsTest {
             x.rule(3);
             Check.same("seed " + seed, Check.goers(x, 4), "0c45");
         }
+        int[] seeds = {1, 99, 65535, -1, -99, Integer.MAX_VALUE, Integer.MIN_VALUE + 5};
+        for (int seed : seeds) {
+            ThreadSlots x = new ThreadSlots(2, seed);
+            x.ready(0, true);
+            x.ready(1, true);
+            x.rule(3);
+            long value = seed < 0 ? seed + 2147483648L : seed;
+            for (int i = 0; i < 40; i++) {
+                value = (1103515245L * value + 12345L) % 2147483648L;
+                Check.same("seed " + seed + ", cycle " + i, x.cycle(), (int) (value / 65536 % 2));
+            }
+        }
     }
 
     private static void rule() {
