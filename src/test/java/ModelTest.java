@@ -26,10 +26,14 @@ final class ModelTest {
         ThreadSlots x = new ThreadSlots(threads, seed);
         Model model = new Model(threads, seed);
         int n = model.answer("count", 4, 0, 0);
+        // The document leaves open what is told, before the next cycle, of a sleep until one that is past.
+        boolean toldToPast = false;
         for (int i = 0; i < CALLS; i++) {
-            String name = NAMES[random.nextInt(NAMES.length)];
+            String name = toldToPast ? "cycle" : NAMES[random.nextInt(NAMES.length)];
             int a = draw(random, first(name, n));
-            int b = draw(random, second(name, n, model.answer("count", 0, 0, 0)));
+            int cycles = model.answer("count", 0, 0, 0);
+            int b = draw(random, second(name, n, cycles));
+            toldToPast = name.equals("sleep") && b > 0 && b <= cycles;
             int c = draw(random, name.equals("part") ? 8 : name.equals("entry") ? 2 : 1000);
             if (name.equals("run") && run % 50 != 0) {
                 a = Math.min(a, 60);

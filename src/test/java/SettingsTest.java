@@ -166,7 +166,6 @@ final class SettingsTest {
         y.sleep(0, 6);
         Check.same("until the next cycle", y.cycle(), 0);
         y.sleep(0, 2);
-        Check.same("told as before", y.sleep(0, 3), 2);
         Check.same("until a cycle that is past", y.cycle(), 0);
     }
 
