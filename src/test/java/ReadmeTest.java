@@ -37,7 +37,7 @@ final class ReadmeTest {
         String next = rest.substring(0, end);
         rest = rest.substring(end);
         Check.same("the line " + next, next.replaceFirst(" *// .*", ""), call);
-        String comment = next.substring(next.indexOf("// ") + 3);
+        String comment = next.replaceFirst(".*?// ", "");
         Check.same("the answer in " + next, comment.matches("\\Q" + answer + "\\E([^0-9a-zA-Z].*)?"), true);
     }
 }
